@@ -4,6 +4,10 @@ final class Check {
     long answer();
   }
 
+  static final Class<IndexOutOfBoundsException> INDEX = IndexOutOfBoundsException.class;
+  static final Class<IllegalArgumentException> ARGUMENT = IllegalArgumentException.class;
+  static final Class<IllegalStateException> STATE = IllegalStateException.class;
+
   private static int checks = 0;
   private static int wrong = 0;
 
@@ -21,9 +25,28 @@ final class Check {
     due(what, got ? 1 : 0, want ? 1 : 0);
   }
 
-  /** The very class is due, not one below it, as a caller could tell them apart. */
-  static void thrown(String what, Class<? extends RuntimeException> want, Call call) {
+  static void share(String what, Treeclerk clerk, int person, int dead, long above, long below) {
+    due(what + ", above", clerk.shareAbove(person, dead), above);
+    due(what + ", below", clerk.shareBelow(person, dead), below);
+    due(what + ", above by ways", clerk.shareAboveByWays(person, dead), above);
+  }
+
+  /** The row of owners from a unit on, each as it is kept and as it is found anew. */
+  static void owners(String what, Treeclerk clerk, int from, int... want) {
+    for (int i = 0; i < want.length; i++) {
+      due(what + ", owner of " + (from + i), clerk.owner(from + i), want[i]);
+      due(what + ", owner anew of " + (from + i), clerk.ownerAnew(from + i), want[i]);
+    }
+  }
+
+  /**
+   * A call that throws, and changes nothing. The very class is due, not one below it: the
+   * machine's own exceptions are below IndexOutOfBoundsException.
+   */
+  static void thrown(
+      String what, Treeclerk clerk, Class<? extends RuntimeException> want, Call call) {
     checks++;
+    String before = Answers.of(clerk);
     try {
       long got = call.answer();
       wrong++;
@@ -33,6 +56,10 @@ final class Check {
         wrong++;
         System.out.println(what + " threw " + e + ", due is " + want.getSimpleName());
       }
+    }
+    if (!Answers.of(clerk).equals(before)) {
+      wrong++;
+      System.out.println(what + " threw and changed something");
     }
   }
 
