@@ -89,6 +89,7 @@ public final class KinTest {
       Check.thrown("9: weight", clerk, Check.ARGUMENT, () -> clerk.doubt(0, weight));
     }
     clerk.judge(2, true);
+    Check.due("12: earlier and later doubts are gone", clerk.openDoubts(), 0);
     Check.thrown("9: fallen", clerk, Check.STATE, () -> clerk.doubt(0, 1));
     Check.thrown("9: the argument first", clerk, Check.ARGUMENT, () -> clerk.doubt(0, 10));
   }

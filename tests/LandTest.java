@@ -13,6 +13,11 @@ public final class LandTest {
     reopenedBehindHandings();
     reopenedInTurn();
     reopenedEarlierClosing();
+    reopenedTogether();
+    reopenedFromTheFirstDeed();
+    judgedTwice();
+    allDeeds();
+    edgesOfTheLand();
     parcels();
     wrongUnits();
     Check.finish();
@@ -78,6 +83,9 @@ public final class LandTest {
     Check.owners("27: handed", clerk, 5, 0, 0, 0, 2, 2, 1, 1, -1);
     Check.thrown("27: none", clerk, Check.STATE, () -> clerk.hand(0, 2, 8, 60));
     Check.due("27: back", clerk.hand(2, 0, 9, 10), 1);
+    Check.due("27: from its middle", clerk.hand(0, 3, 6, 7), 1);
+    Check.owners("27: from its middle", clerk, 5, 0, 3, 0, 2, 0);
+    Check.due("27: back", clerk.hand(3, 0, 6, 7), 1);
     Check.due("27: all", clerk.hand(0, 1, 0, 60), 4);
     Check.owners("27: handed", clerk, 5, 1, 1, 1, 2, 1, 1, 1);
     Check.due("30: area", clerk.area(1), 6);
@@ -240,6 +248,108 @@ public final class LandTest {
     Check.owners("28: both are drawn anew", clerk, 0, 4, 4, 4, 4);
     clerk.judge(0, true);
     Check.owners("28: nothing more", clerk, 0, 4, 4, 4, 4);
+  }
+
+  /** One proof changes two estates: the land is drawn anew from the earlier closing on. */
+  private static void reopenedTogether() {
+    Treeclerk clerk = people(4);
+    clerk.grant(0, 0, 2);
+    clerk.grant(1, 2, 4);
+    clerk.proof(0, 1, 5);
+    clerk.death(1);
+    clerk.death(0);
+    clerk.close(0);
+    clerk.close(1);
+    Check.owners("28: no heirs", clerk, 0, -1, -1, -1, -1);
+    clerk.proof(1, 3, 5);
+    Check.owners("28: both are drawn anew", clerk, 0, 3, 3, 3, 3);
+    Check.due("25: the first", clerk.reopenings(0), 1);
+    Check.due("25: the second", clerk.reopenings(1), 1);
+  }
+
+  /** The very first deed is a closing of somebody without land. */
+  private static void reopenedFromTheFirstDeed() {
+    Treeclerk clerk = people(4);
+    clerk.proof(0, 1, 5);
+    clerk.proof(0, 3, 5);
+    clerk.death(0);
+    Check.due("18: two children", clerk.close(0), 2);
+    clerk.grant(1, 0, 2);
+    clerk.death(1);
+    Check.due("18: the other child", clerk.close(1), 1);
+    Check.owners("28: the other child's", clerk, 0, 3, 3);
+    clerk.doubt(0, 5);
+    Check.owners("28: no child of that parent", clerk, 0, -1, -1);
+    Check.due("25: the one without land", clerk.reopenings(0), 1);
+    Check.due("25: the one with land", clerk.reopenings(1), 1);
+    Check.due("10: by the judgement", clerk.judge(0, false), 2);
+    Check.owners("28: the other child's again", clerk, 0, 3, 3);
+  }
+
+  /** Nothing is asked between the judgements, so each counts against the one before. */
+  private static void judgedTwice() {
+    Treeclerk clerk = people(4);
+    clerk.grant(0, 0, 60);
+    clerk.proof(0, 1, 5);
+    clerk.proof(0, 2, 5);
+    clerk.death(0);
+    clerk.close(0);
+    clerk.doubt(0, 5);
+    clerk.doubt(1, 1);
+    Check.due("10: half of it comes back", clerk.judge(0, false), 30);
+    Check.due("10: the other half goes", clerk.judge(1, true), 30);
+    Check.owners("28: all is the first one's", clerk, 29, 1, 1);
+  }
+
+  /** As many deeds as there can be: 60 grants, 60 handings and 14 closings. */
+  private static void allDeeds() {
+    Treeclerk clerk = people(14);
+    for (int unit = 0; unit < 60; unit++) {
+      Check.due("26: one by one", clerk.grant(unit % 14, unit, unit + 1), 1);
+    }
+    for (int unit = 0; unit < 60; unit++) {
+      Check.due("27: one by one", clerk.hand(unit % 14, (unit + 1) % 14, unit, unit + 1), 1);
+      Check.owners("27: one by one", clerk, unit, (unit + 1) % 14);
+    }
+    for (int child = 1; child < 14; child++) {
+      clerk.proof(child - 1, child, 5);
+    }
+    for (int dead = 0; dead < 13; dead++) {
+      clerk.death(dead);
+      Check.due("18: the next one", clerk.close(dead), 1);
+    }
+    Check.due("30: all came to the last one", clerk.area(13), 60);
+    Check.owners("28: the first ones", clerk, 0, 13, 13, 13);
+    Check.owners("28: the last ones", clerk, 58, 13, 13);
+    clerk.doubt(12, 5);
+    Check.due("30: the last proof falls away", clerk.area(13), 4);
+    Check.owners("28: what was handed to it stays", clerk, 11, -1, 13, -1);
+    Check.owners("28: the last ones", clerk, 58, -1, -1);
+    clerk.judge(0, false);
+    Check.due("30: and comes back", clerk.area(13), 60);
+    clerk.death(13);
+    Check.due("18: the last one has no heirs", clerk.close(13), 0);
+    Check.due("30: nothing is left", clerk.area(13), 0);
+    Check.owners("28: nothing is left", clerk, 58, -1, -1);
+    Check.due("31: no parcels", clerk.parcels(), 0);
+  }
+
+  private static void edgesOfTheLand() {
+    Treeclerk clerk = people(14);
+    clerk.grant(13, 0, 1);
+    clerk.grant(13, 59, 60);
+    Check.thrown("26: the first unit", clerk, Check.STATE, () -> clerk.grant(0, 0, 1));
+    Check.thrown("26: the last unit", clerk, Check.STATE, () -> clerk.grant(0, 59, 60));
+    Check.due("31: at both ends", clerk.parcels(), 2);
+    Check.due("32: at the start", clerk.parcelAt(0), 1);
+    Check.due("32: at the end", clerk.parcelAt(59), 5901);
+    Check.due("30: at both ends", clerk.area(13), 2);
+    clerk.will(13, 0, 1);
+    clerk.will(13, 12, 1);
+    clerk.death(13);
+    Check.due("18: the last one's estate", clerk.close(13), 2);
+    Check.owners("28: the first", clerk, 0, 0);
+    Check.owners("28: the last", clerk, 59, 12);
   }
 
   private static void parcels() {

@@ -13,6 +13,13 @@ public final class SharesTest {
     disputesOfTheUnclosed();
     reopenings();
     manyGenerations();
+    youngestFirst();
+    inNoOrder();
+    theLastPerson();
+    longestLine();
+    onlyHeir();
+    manyHeirs();
+    weakestDispute();
     wrongInputs();
     Check.finish();
   }
@@ -190,6 +197,7 @@ public final class SharesTest {
     clerk.will(0, 2, 2);
     clerk.will(0, 3, 9);
     clerk.proof(4, 5, 3);
+    clerk.proof(3, 6, 3);
     clerk.death(3);
     clerk.death(0);
     Check.share("20: by will", clerk, 1, 0, 2, 3);
@@ -317,6 +325,165 @@ public final class SharesTest {
     clerk.death(13);
     Check.due("23: nobody is left", clerk.heirs(0), 0);
     Check.due("23: nobody is left", clerk.heirs(13), 0);
+  }
+
+  /** The same once more, but people are registered from the youngest to the oldest. */
+  private static void youngestFirst() {
+    Treeclerk clerk = new Treeclerk();
+    clerk.pass(100);
+    for (int person = 0; person < 14; person++) {
+      clerk.birth(26 - 2 * person);
+    }
+    for (int parent = 13; parent > 0; parent--) {
+      clerk.proof(parent, parent - 1, 5);
+      if (parent > 1) {
+        clerk.proof(parent, parent - 2, 5);
+      }
+    }
+    for (int person = 13; person > 1; person--) {
+      clerk.death(person);
+    }
+    Check.share("20: many ways", clerk, 1, 13, 2731, 4096);
+    Check.share("20: many ways", clerk, 0, 13, 1365, 4096);
+    clerk.death(1);
+    Check.share("20: the longest line", clerk, 0, 13, 1, 1);
+    clerk.close(13);
+    clerk.close(2);
+    clerk.doubt(0, 5);
+    Check.share("20: the longest line", clerk, 0, 13, 1, 1);
+  }
+
+  /** People are registered in no order of age, so their numbers tell nothing of it. */
+  private static void inNoOrder() {
+    Treeclerk clerk = new Treeclerk();
+    clerk.pass(100);
+    int[] days = {50, 10, 30, 70, 20, 60, 40};
+    for (int day : days) {
+      clerk.birth(day);
+    }
+    // The line by age is 1, 4, 2, 6, 0, 5, 3.
+    int[] byAge = {1, 4, 2, 6, 0, 5, 3};
+    for (int i = 1; i < 7; i++) {
+      clerk.proof(byAge[i - 1], byAge[i], 5);
+    }
+    clerk.proof(4, 6, 5);
+    for (int i = 0; i < 6; i++) {
+      clerk.death(byAge[i]);
+    }
+    Check.share("20: down to the youngest", clerk, 3, 1, 1, 1);
+    Check.share("20: down to the youngest", clerk, 3, 4, 1, 1);
+    Check.due("23: nobody else", clerk.heirs(2), 1);
+    clerk.birth(45);
+    clerk.proof(2, 7, 5);
+    Check.share("20: in the midst", clerk, 7, 1, 1, 4);
+    Check.share("20: in the midst", clerk, 3, 1, 3, 4);
+  }
+
+  /** The person with the highest number is dead, an heir, a parent and a child like any other. */
+  private static void theLastPerson() {
+    Treeclerk clerk = new Treeclerk();
+    clerk.pass(100);
+    for (int person = 0; person < 13; person++) {
+      clerk.birth(50 + person);
+    }
+    clerk.birth(40);
+    clerk.will(13, 0, 2);
+    clerk.will(13, 12, 1);
+    clerk.will(0, 13, 4);
+    clerk.will(0, 1, 4);
+    clerk.death(0);
+    Check.share("20: by will", clerk, 13, 0, 1, 2);
+    clerk.close(0);
+    clerk.death(13);
+    Check.share("20: by will", clerk, 12, 13, 1, 1);
+    Check.share("20: as it was closed", clerk, 13, 0, 1, 2);
+    Check.due("16: a claim to it", clerk.claim(12, 13), 1);
+    Check.due("16: a claim to it", clerk.claim(11, 13), 2);
+    Check.due("5: a claim to it is gone", clerk.death(12), 1);
+    Check.due("23: no heirs", clerk.heirs(13), 0);
+    clerk.close(13);
+    clerk.proof(13, 11, 2);
+    Check.due("14: its child", clerk.childrenOf(13), 1 << 11);
+    Check.due("13: its child", clerk.parentOf(11, 0), 13);
+    Check.share("20: its child", clerk, 11, 13, 1, 1);
+    Check.due("25: reopened", clerk.reopenings(13), 1);
+    clerk.doubt(0, 1);
+    Check.due("24: dispute", clerk.disputes(13), 1);
+    clerk.death(11);
+    Check.share("20: it was alive", clerk, 11, 13, 1, 1);
+  }
+
+  /** A line of 14, one behind the other: all of it comes to the only one who lives. */
+  private static void longestLine() {
+    Treeclerk clerk = people(14);
+    for (int child = 1; child < 14; child++) {
+      clerk.proof(child - 1, child, 5);
+      clerk.death(child - 1);
+    }
+    for (int dead = 0; dead < 13; dead++) {
+      Check.share("20: down the line", clerk, 13, dead, 1, 1);
+    }
+  }
+
+  /** Shares can become others for one person alone: where there were no heirs at all. */
+  private static void onlyHeir() {
+    for (int heir = 1; heir < 14; heir++) {
+      Treeclerk clerk = people(14);
+      clerk.death(0);
+      clerk.close(0);
+      clerk.proof(0, heir, 5);
+      Check.share("20: the only heir", clerk, heir, 0, 1, 1);
+      Check.due("25: the only heir", clerk.reopenings(0), 1);
+      clerk.doubt(0, 1);
+      Check.due("24: the only heir", clerk.disputes(0), 1);
+    }
+    Treeclerk clerk = people(3);
+    clerk.death(2);
+    clerk.close(2);
+    clerk.proof(0, 2, 5);
+    Check.share("20: the parent 0", clerk, 0, 2, 1, 1);
+    Check.due("25: the parent 0", clerk.reopenings(2), 1);
+  }
+
+  private static void manyHeirs() {
+    Treeclerk clerk = people(14);
+    clerk.grant(0, 0, 60);
+    for (int child = 1; child < 14; child++) {
+      clerk.proof(0, child, 5);
+    }
+    clerk.death(0);
+    for (int child = 13; child > 0; child--) {
+      Check.due("16: a claim by each", clerk.claim(child, 0), 14 - child);
+    }
+    Check.due("18: thirteen", clerk.close(0), 13);
+    Check.share("20: a thirteenth", clerk, 13, 0, 1, 13);
+    Check.due("30: by rank", clerk.area(13), 5);
+    Check.due("30: by rank", clerk.area(6), 5);
+    Check.due("30: by rank", clerk.area(5), 4);
+    Check.owners("28: by rank", clerk, 4, 13, 12);
+    Check.owners("28: by rank", clerk, 55, 2, 1, 1, 1, 1);
+    clerk.doubt(12, 5);
+    Check.share("20: a twelfth", clerk, 1, 0, 1, 12);
+    Check.share("20: gone", clerk, 13, 0, 0, 1);
+    Check.owners("28: drawn anew", clerk, 0, 12, 12, 12, 12, 12, 11);
+    clerk.judge(0, false);
+    Check.share("20: a thirteenth", clerk, 13, 0, 1, 13);
+    Check.due("25: twice", clerk.reopenings(0), 2);
+  }
+
+  private static void weakestDispute() {
+    Treeclerk clerk = people(3);
+    clerk.proof(0, 1, 3);
+    clerk.death(0);
+    clerk.doubt(0, 2);
+    Check.due("11: just stands", clerk.strength(0), 1);
+    Check.due("24: just stands", clerk.disputes(0), 1);
+    clerk.doubt(0, 1);
+    Check.due("24: just does not stand", clerk.disputes(0), 0);
+    clerk.close(0);
+    Check.due("24: closed", clerk.disputes(0), 0);
+    clerk.judge(1, false);
+    Check.due("24: stands again", clerk.disputes(0), 1);
   }
 
   private static void wrongInputs() {
