@@ -25,6 +25,14 @@ final class Check {
     due(what, got ? 1 : 0, want ? 1 : 0);
   }
 
+  static void same(String what, String got, String want) {
+    checks++;
+    if (!got.equals(want)) {
+      wrong++;
+      System.out.println(what + " answered " + got + ", due is " + want);
+    }
+  }
+
   static void share(String what, Treeclerk clerk, int person, int dead, long above, long below) {
     due(what + ", above", clerk.shareAbove(person, dead), above);
     due(what + ", below", clerk.shareBelow(person, dead), below);

@@ -2,8 +2,9 @@ import java.util.Random;
 
 /** Holds Treeclerk against PlainClerk in many runs of calls, the same ones every time. */
 public final class PlainClerkTest {
-  private static final int RUNS = 400;
-  private static final int CALLS = 300;
+  private static final int RUNS = 800;
+  // What later calls answer is free, so no run has more of them.
+  private static final int CALLS = 512;
   private static final String[] QUESTIONS = {
     "strength", "parentOf", "childrenOf", "claims", "isAlive", "isClosed", "shareAbove",
     "shareBelow", "shareAboveByWays", "heirs", "disputes", "reopenings", "owner", "ownerAnew",
@@ -14,6 +15,7 @@ public final class PlainClerkTest {
   private final Treeclerk clerk = new Treeclerk();
   private final PlainClerk plain = new PlainClerk();
   private final StringBuilder story = new StringBuilder();
+  private int calls = 0;
   // How likely odd arguments are, and how fast people die, differ from run to run.
   private final int oddity;
   private final int mortality;
@@ -38,15 +40,17 @@ public final class PlainClerkTest {
     }
     int people = 4 + random.nextInt(11);
     for (int i = 0; i < people; i++) {
-      compare(run, "birth", random.nextInt(clerk.today() + 1), 0, 0, 0);
+      compare(run, "birth", random.nextInt(plain.today() + 1), 0, 0, 0);
     }
-    for (int call = 0; call < CALLS; call++) {
+    while (calls < CALLS - 20) {
       change(run);
-      for (int i = 0; i < 2; i++) {
+      if (random.nextInt(3) == 0) {
         ask(run, QUESTIONS[random.nextInt(QUESTIONS.length)]);
+        ask(run, random.nextBoolean() ? "owner" : "ownerAnew");
       }
-      ask(run, "owner");
-      ask(run, "ownerAnew");
+    }
+    while (calls < CALLS) {
+      ask(run, QUESTIONS[calls % QUESTIONS.length]);
     }
   }
 
@@ -55,7 +59,7 @@ public final class PlainClerkTest {
     if (kind < 2) {
       compare(run, "pass", odd(random.nextInt(20) + 1, 101), 0, 0, 0);
     } else if (kind < 3) {
-      compare(run, "birth", odd(random.nextInt(clerk.today() + 1), clerk.today() + 1), 0, 0, 0);
+      compare(run, "birth", odd(random.nextInt(plain.today() + 1), plain.today() + 1), 0, 0, 0);
     } else if (kind < 12) {
       compare(run, "proof", person(), person(), odd(random.nextInt(9) + 1, 10), 0);
     } else if (kind < 15) {
@@ -90,7 +94,7 @@ public final class PlainClerkTest {
   }
 
   private int person() {
-    int people = Math.max(1, clerk.people());
+    int people = Math.max(1, plain.people());
     return odd(random.nextInt(people), people);
   }
 
@@ -108,8 +112,9 @@ public final class PlainClerkTest {
   }
 
   private void compare(int run, String call, int a, int b, int c, int d) {
-    String got = outcome(() -> ofClerk(call, a, b, c, d));
-    String want = outcome(() -> ofPlain(call, a, b, c, d));
+    calls++;
+    String got = Calls.outcome(clerk, call, a, b, c, d);
+    String want = Calls.outcome(plain, call, a, b, c, d);
     story.append(call).append('(').append(a).append(", ").append(b).append(", ").append(c)
         .append(", ").append(d).append(") ").append(want).append('\n');
     Check.due("run " + run + ": " + call + " as PlainClerk's " + want + " and not " + got,
@@ -118,85 +123,5 @@ public final class PlainClerkTest {
       System.out.println(story);
       Check.finish();
     }
-  }
-
-  private static String outcome(Check.Call call) {
-    try {
-      return Long.toString(call.answer());
-    } catch (RuntimeException e) {
-      return e.getClass().getName();
-    }
-  }
-
-  private long ofClerk(String call, int a, int b, int c, int d) {
-    return switch (call) {
-      case "pass" -> clerk.pass(a);
-      case "today" -> clerk.today();
-      case "birth" -> clerk.birth(a);
-      case "death" -> clerk.death(a);
-      case "people" -> clerk.people();
-      case "isAlive" -> clerk.isAlive(a) ? 1 : 0;
-      case "proof" -> clerk.proof(a, b, c);
-      case "doubt" -> clerk.doubt(a, b);
-      case "judge" -> clerk.judge(a, b == 1);
-      case "strength" -> clerk.strength(a);
-      case "openDoubts" -> clerk.openDoubts();
-      case "parentOf" -> clerk.parentOf(a, b);
-      case "childrenOf" -> clerk.childrenOf(a);
-      case "will" -> clerk.will(a, b, c);
-      case "claim" -> clerk.claim(a, b);
-      case "claims" -> clerk.claims(a);
-      case "close" -> clerk.close(a);
-      case "isClosed" -> clerk.isClosed(a) ? 1 : 0;
-      case "shareAbove" -> clerk.shareAbove(a, b);
-      case "shareBelow" -> clerk.shareBelow(a, b);
-      case "shareAboveByWays" -> clerk.shareAboveByWays(a, b);
-      case "heirs" -> clerk.heirs(a);
-      case "disputes" -> clerk.disputes(a);
-      case "reopenings" -> clerk.reopenings(a);
-      case "grant" -> clerk.grant(a, b, c);
-      case "hand" -> clerk.hand(a, b, c, d);
-      case "owner" -> clerk.owner(a);
-      case "ownerAnew" -> clerk.ownerAnew(a);
-      case "area" -> clerk.area(a);
-      case "parcels" -> clerk.parcels();
-      case "parcelAt" -> clerk.parcelAt(a);
-      default -> throw new AssertionError(call);
-    };
-  }
-
-  private long ofPlain(String call, int a, int b, int c, int d) {
-    return switch (call) {
-      case "pass" -> plain.pass(a);
-      case "today" -> plain.today();
-      case "birth" -> plain.birth(a);
-      case "death" -> plain.death(a);
-      case "people" -> plain.people();
-      case "isAlive" -> plain.isAlive(a) ? 1 : 0;
-      case "proof" -> plain.proof(a, b, c);
-      case "doubt" -> plain.doubt(a, b);
-      case "judge" -> plain.judge(a, b == 1);
-      case "strength" -> plain.strength(a);
-      case "openDoubts" -> plain.openDoubts();
-      case "parentOf" -> plain.parentOf(a, b);
-      case "childrenOf" -> plain.childrenOf(a);
-      case "will" -> plain.will(a, b, c);
-      case "claim" -> plain.claim(a, b);
-      case "claims" -> plain.claims(a);
-      case "close" -> plain.close(a);
-      case "isClosed" -> plain.isClosed(a) ? 1 : 0;
-      case "shareAbove", "shareAboveByWays" -> plain.shareAbove(a, b);
-      case "shareBelow" -> plain.shareBelow(a, b);
-      case "heirs" -> plain.heirs(a);
-      case "disputes" -> plain.disputes(a);
-      case "reopenings" -> plain.reopenings(a);
-      case "grant" -> plain.grant(a, b, c);
-      case "hand" -> plain.hand(a, b, c, d);
-      case "owner", "ownerAnew" -> plain.owner(a);
-      case "area" -> plain.area(a);
-      case "parcels" -> plain.parcels();
-      case "parcelAt" -> plain.parcelAt(a);
-      default -> throw new AssertionError(call);
-    };
   }
 }
