@@ -18,8 +18,13 @@ final class Edges {
   private Edges() {}
 
   static void edge(String name, String text) {
-    Check.due(name + ": is a name of its own", names.add(name), true);
     promises.add(Integer.valueOf(name.substring(0, name.indexOf(' '))));
+    play(name, text);
+  }
+
+  /** A case that is of no promise alone. */
+  static void play(String name, String text) {
+    Check.due(name + ": is a name of its own", names.add(name), true);
     List<Row> rows = Row.read(text);
     List<Row> kept = new ArrayList<>();
     Treeclerk clerk = new Treeclerk();
@@ -97,6 +102,10 @@ final class Edges {
     for (int promise = firstPromise; promise <= lastPromise; promise++) {
       Check.due("promise " + promise + " has cases", promises.contains(promise), true);
     }
+    finish();
+  }
+
+  static void finish() {
     System.out.println(names.size() + " cases");
     Check.finish();
   }

@@ -1,61 +1,38 @@
-import java.lang.reflect.Constructor;
 import java.lang.reflect.Field;
 import java.lang.reflect.Method;
 import java.lang.reflect.Modifier;
 import java.util.Set;
 import java.util.TreeSet;
 
-/** The public face is the document's, with its throws clauses, and nothing but it can be seen. */
+/**
+ * The public face is the document's, and nothing but it can be seen. That each of the document's
+ * declarations is there, with its throws clause, is in DocumentTest, too.
+ */
 public final class FaceTest {
-  private static final String INDEX = "IndexOutOfBoundsException";
-  private static final String ARGUMENT = "IllegalArgumentException";
-  private static final String STATE = "IllegalStateException";
-  private static final String[] FACE = {
-    "int pass(int) " + ARGUMENT + " " + STATE,
-    "int today()",
-    "int birth(int) " + ARGUMENT + " " + STATE,
-    "int death(int) " + INDEX + " " + STATE,
-    "int people()",
-    "boolean isAlive(int) " + INDEX,
-    "int proof(int,int,int) " + INDEX + " " + ARGUMENT + " " + STATE,
-    "int doubt(int,int) " + INDEX + " " + ARGUMENT + " " + STATE,
-    "int judge(int,boolean) " + INDEX + " " + STATE,
-    "int strength(int) " + INDEX,
-    "int openDoubts()",
-    "int parentOf(int,int) " + INDEX + " " + ARGUMENT,
-    "int childrenOf(int) " + INDEX,
-    "int will(int,int,int) " + INDEX + " " + ARGUMENT + " " + STATE,
-    "int claim(int,int) " + INDEX + " " + STATE,
-    "int claims(int) " + INDEX,
-    "int close(int) " + INDEX + " " + STATE,
-    "boolean isClosed(int) " + INDEX,
-    "long shareAbove(int,int) " + INDEX + " " + STATE,
-    "long shareBelow(int,int) " + INDEX + " " + STATE,
-    "long shareAboveByWays(int,int) " + INDEX + " " + STATE,
-    "int heirs(int) " + INDEX + " " + STATE,
-    "int disputes(int) " + INDEX + " " + STATE,
-    "int reopenings(int) " + INDEX,
-    "int grant(int,int,int) " + INDEX + " " + ARGUMENT + " " + STATE,
-    "int hand(int,int,int,int) " + INDEX + " " + ARGUMENT + " " + STATE,
-    "int owner(int) " + INDEX,
-    "int ownerAnew(int) " + INDEX,
-    "int area(int) " + INDEX,
-    "int parcels()",
-    "int parcelAt(int) " + INDEX + " NoSuchElementException"
-  };
-
   public static void main(String[] args) {
-    Set<String> want = new TreeSet<>(Set.of(FACE));
-    Set<String> seen = new TreeSet<>();
+    Set<String> want = new TreeSet<>();
+    for (Document.Sentence sentence : Document.sentences()) {
+      if (sentence.heading().equals(Face.HEADING)) {
+        Check.due(sentence.text() + ": is there", Face.has(sentence.text()), true);
+        want.add(Face.plain(sentence.text()));
+      }
+    }
+    // The constant, the constructor and 31 methods; and the class's own first and last line.
+    Check.due("the document's declarations", want.size(), 35);
+    want.removeIf(line -> line.equals("}") || line.startsWith("final class "));
+    Check.same("all that can be seen", new TreeSet<>(Face.visible()).toString(), want.toString());
+    nothingIsHiddenBadly();
+    Check.finish();
+  }
+
+  private static void nothingIsHiddenBadly() {
     Set<String> names = new TreeSet<>();
     for (Method method : Treeclerk.class.getDeclaredMethods()) {
-      if (!Modifier.isPrivate(method.getModifiers())) {
-        seen.add(described(method));
+      if (Modifier.isPublic(method.getModifiers())) {
         names.add(method.getName());
       }
     }
-    System.out.println("too many: " + without(seen, want) + ", missing: " + without(want, seen));
-    Check.due("the methods", seen.equals(want), true);
+    Check.due("the methods", names.size(), 31);
     for (Method method : Treeclerk.class.getDeclaredMethods()) {
       Check.due(method.getName() + " is private under a public name",
           Modifier.isPrivate(method.getModifiers()) && names.contains(method.getName()), false);
@@ -63,36 +40,13 @@ public final class FaceTest {
     for (Field field : Treeclerk.class.getDeclaredFields()) {
       boolean isNone = field.getName().equals("NONE");
       Check.due(field.getName() + " is public", Modifier.isPublic(field.getModifiers()), isNone);
-      Check.due(field.getName() + " is private", Modifier.isPrivate(field.getModifiers()), !isNone);
     }
-    Constructor<?>[] made = Treeclerk.class.getDeclaredConstructors();
-    Check.due("the constructors", made.length == 1 && made[0].getParameterCount() == 0
-        && Modifier.isPublic(made[0].getModifiers()), true);
-    Check.due("the class", Treeclerk.class.getModifiers(), Modifier.PUBLIC | Modifier.FINAL);
-    Check.finish();
-  }
-
-  private static Set<String> without(Set<String> all, Set<String> others) {
-    Set<String> rest = new TreeSet<>(all);
-    rest.removeAll(others);
-    return rest;
-  }
-
-  private static String described(Method method) {
-    StringBuilder text = new StringBuilder();
-    if (method.getModifiers() != Modifier.PUBLIC) {
-      text.append(Modifier.toString(method.getModifiers())).append(": ");
+    for (Class<?> inside : Treeclerk.class.getDeclaredClasses()) {
+      int modifiers = inside.getModifiers();
+      Check.due(inside.getName() + " can be seen outside",
+          Modifier.isPublic(modifiers) || Modifier.isProtected(modifiers), false);
     }
-    text.append(method.getReturnType().getSimpleName()).append(' ').append(method.getName());
-    String between = "(";
-    for (Class<?> parameter : method.getParameterTypes()) {
-      text.append(between).append(parameter.getSimpleName());
-      between = ",";
-    }
-    text.append(between.equals("(") ? "()" : ")");
-    for (Class<?> thrown : method.getExceptionTypes()) {
-      text.append(' ').append(thrown.getSimpleName());
-    }
-    return text.toString();
+    Check.due("it is below Object alone", Treeclerk.class.getSuperclass() == Object.class
+        && Treeclerk.class.getInterfaces().length == 0, true);
   }
 }

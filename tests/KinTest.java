@@ -32,23 +32,23 @@ public final class KinTest {
     Check.due("11: strength", clerk.strength(1), 1);
     int[] persons = {-1, 4, 14, Integer.MAX_VALUE, Integer.MIN_VALUE};
     for (int person : persons) {
-      Check.thrown("8: parent", clerk, Check.INDEX, () -> clerk.proof(person, 1, 1));
-      Check.thrown("8: child", clerk, Check.INDEX, () -> clerk.proof(0, person, 1));
-      Check.thrown("8: the index first", clerk, Check.INDEX, () -> clerk.proof(0, person, 0));
+      Check.thrown("8: parent", Check.INDEX, () -> clerk.proof(person, 1, 1));
+      Check.thrown("8: child", Check.INDEX, () -> clerk.proof(0, person, 1));
+      Check.thrown("8: the index first", Check.INDEX, () -> clerk.proof(0, person, 0));
     }
     int[] weights = {0, 10, -1, Integer.MAX_VALUE, Integer.MIN_VALUE};
     for (int weight : weights) {
-      Check.thrown("8: weight", clerk, Check.ARGUMENT, () -> clerk.proof(0, 1, weight));
+      Check.thrown("8: weight", Check.ARGUMENT, () -> clerk.proof(0, 1, weight));
     }
-    Check.thrown("8: older child", clerk, Check.ARGUMENT, () -> clerk.proof(1, 0, 5));
-    Check.thrown("8: child of the same day", clerk, Check.ARGUMENT, () -> clerk.proof(2, 3, 5));
-    Check.thrown("8: its own child", clerk, Check.ARGUMENT, () -> clerk.proof(1, 1, 5));
+    Check.thrown("8: older child", Check.ARGUMENT, () -> clerk.proof(1, 0, 5));
+    Check.thrown("8: child of the same day", Check.ARGUMENT, () -> clerk.proof(2, 3, 5));
+    Check.thrown("8: its own child", Check.ARGUMENT, () -> clerk.proof(1, 1, 5));
     clerk.death(0);
     clerk.death(3);
     Check.due("8: among the dead", clerk.proof(0, 3, 5), 3);
     int[] proofs = {-1, 4, 29, 30, Integer.MAX_VALUE, Integer.MIN_VALUE};
     for (int number : proofs) {
-      Check.thrown("11: no proof", clerk, Check.INDEX, () -> clerk.strength(number));
+      Check.thrown("11: no proof", Check.INDEX, () -> clerk.strength(number));
     }
   }
 
@@ -59,10 +59,10 @@ public final class KinTest {
     }
     clerk.doubt(0, 1);
     clerk.judge(0, true);
-    Check.thrown("8: a 31st", clerk, Check.STATE, () -> clerk.proof(0, 1, 1));
-    Check.thrown("8: the weight first", clerk, Check.ARGUMENT, () -> clerk.proof(0, 1, 10));
-    Check.thrown("8: the days first", clerk, Check.ARGUMENT, () -> clerk.proof(1, 0, 1));
-    Check.thrown("8: the index first", clerk, Check.INDEX, () -> clerk.proof(3, 0, 1));
+    Check.thrown("8: a 31st", Check.STATE, () -> clerk.proof(0, 1, 1));
+    Check.thrown("8: the weight first", Check.ARGUMENT, () -> clerk.proof(0, 1, 10));
+    Check.thrown("8: the days first", Check.ARGUMENT, () -> clerk.proof(1, 0, 1));
+    Check.thrown("8: the index first", Check.INDEX, () -> clerk.proof(3, 0, 1));
     Check.due("11: the last one", clerk.strength(29), 1);
   }
 
@@ -81,17 +81,17 @@ public final class KinTest {
     Check.due("12: openDoubts", clerk.openDoubts(), 4);
     int[] proofs = {-1, 1, 30, Integer.MAX_VALUE, Integer.MIN_VALUE};
     for (int number : proofs) {
-      Check.thrown("9: no proof", clerk, Check.INDEX, () -> clerk.doubt(number, 1));
-      Check.thrown("9: the index first", clerk, Check.INDEX, () -> clerk.doubt(number, 0));
+      Check.thrown("9: no proof", Check.INDEX, () -> clerk.doubt(number, 1));
+      Check.thrown("9: the index first", Check.INDEX, () -> clerk.doubt(number, 0));
     }
     int[] weights = {0, 10, -1, Integer.MAX_VALUE, Integer.MIN_VALUE};
     for (int weight : weights) {
-      Check.thrown("9: weight", clerk, Check.ARGUMENT, () -> clerk.doubt(0, weight));
+      Check.thrown("9: weight", Check.ARGUMENT, () -> clerk.doubt(0, weight));
     }
     clerk.judge(2, true);
     Check.due("12: earlier and later doubts are gone", clerk.openDoubts(), 0);
-    Check.thrown("9: fallen", clerk, Check.STATE, () -> clerk.doubt(0, 1));
-    Check.thrown("9: the argument first", clerk, Check.ARGUMENT, () -> clerk.doubt(0, 10));
+    Check.thrown("9: fallen", Check.STATE, () -> clerk.doubt(0, 1));
+    Check.thrown("9: the argument first", Check.ARGUMENT, () -> clerk.doubt(0, 10));
   }
 
   private static void doubtsAreThirty() {
@@ -102,11 +102,11 @@ public final class KinTest {
       Check.due("9: number", clerk.doubt(number % 2, 1), number);
     }
     Check.due("12: thirty", clerk.openDoubts(), 30);
-    Check.thrown("9: a 31st", clerk, Check.STATE, () -> clerk.doubt(0, 1));
+    Check.thrown("9: a 31st", Check.STATE, () -> clerk.doubt(0, 1));
     clerk.judge(29, false);
-    Check.thrown("9: the judged count", clerk, Check.STATE, () -> clerk.doubt(0, 1));
-    Check.thrown("9: the argument first", clerk, Check.ARGUMENT, () -> clerk.doubt(0, 10));
-    Check.thrown("9: the index first", clerk, Check.INDEX, () -> clerk.doubt(2, 10));
+    Check.thrown("9: the judged count", Check.STATE, () -> clerk.doubt(0, 1));
+    Check.thrown("9: the argument first", Check.ARGUMENT, () -> clerk.doubt(0, 10));
+    Check.thrown("9: the index first", Check.INDEX, () -> clerk.doubt(2, 10));
     Check.due("12: one less", clerk.openDoubts(), 29);
   }
 
@@ -118,11 +118,11 @@ public final class KinTest {
     Check.due("10: no land", clerk.judge(0, false), 0);
     Check.due("11: the other doubt stays", clerk.strength(0), 1);
     Check.due("12: one open", clerk.openDoubts(), 1);
-    Check.thrown("10: judged", clerk, Check.STATE, () -> clerk.judge(0, true));
-    Check.thrown("10: judged", clerk, Check.STATE, () -> clerk.judge(0, false));
+    Check.thrown("10: judged", Check.STATE, () -> clerk.judge(0, true));
+    Check.thrown("10: judged", Check.STATE, () -> clerk.judge(0, false));
     int[] doubts = {-1, 2, 30, Integer.MAX_VALUE, Integer.MIN_VALUE};
     for (int number : doubts) {
-      Check.thrown("10: no doubt", clerk, Check.INDEX, () -> clerk.judge(number, true));
+      Check.thrown("10: no doubt", Check.INDEX, () -> clerk.judge(number, true));
     }
     clerk.judge(1, false);
     Check.due("11: full strength", clerk.strength(0), 5);
@@ -140,7 +140,7 @@ public final class KinTest {
     Check.due("11: fallen", clerk.strength(0), 0);
     Check.due("11: the other proof", clerk.strength(1), 3);
     Check.due("12: doubts against it are gone", clerk.openDoubts(), 1);
-    Check.thrown("10: gone with the proof", clerk, Check.STATE, () -> clerk.judge(2, false));
+    Check.thrown("10: gone with the proof", Check.STATE, () -> clerk.judge(2, false));
     Check.due("14: one child left", clerk.childrenOf(0), 4);
     clerk.proof(0, 1, 2);
     Check.due("14: proved again", clerk.childrenOf(0), 6);
@@ -196,10 +196,10 @@ public final class KinTest {
     Check.due("13: of others none", clerk.parentOf(6, 0), -1);
     int[] places = {-1, 2, Integer.MAX_VALUE, Integer.MIN_VALUE};
     for (int place : places) {
-      Check.thrown("13: place", clerk, Check.ARGUMENT, () -> clerk.parentOf(5, place));
-      Check.thrown("13: the index first", clerk, Check.INDEX, () -> clerk.parentOf(7, place));
+      Check.thrown("13: place", Check.ARGUMENT, () -> clerk.parentOf(5, place));
+      Check.thrown("13: the index first", Check.INDEX, () -> clerk.parentOf(7, place));
     }
-    Check.thrown("13: no person", clerk, Check.INDEX, () -> clerk.parentOf(-1, 0));
+    Check.thrown("13: no person", Check.INDEX, () -> clerk.parentOf(-1, 0));
   }
 
   private static void children() {
@@ -216,7 +216,7 @@ public final class KinTest {
     Check.due("14: first parent", clerk.childrenOf(3), 0x1000);
     Check.due("14: second parent", clerk.childrenOf(1), 0x1000);
     Check.due("14: fourth", clerk.childrenOf(2), 0);
-    Check.thrown("14: no person", clerk, Check.INDEX, () -> clerk.childrenOf(14));
-    Check.thrown("14: no person", clerk, Check.INDEX, () -> clerk.childrenOf(-1));
+    Check.thrown("14: no person", Check.INDEX, () -> clerk.childrenOf(14));
+    Check.thrown("14: no person", Check.INDEX, () -> clerk.childrenOf(-1));
   }
 }

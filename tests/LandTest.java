@@ -38,24 +38,24 @@ public final class LandTest {
     Check.owners("26: granted", clerk, 4, -1, 0, 0, 0, 0, -1);
     Check.due("26: one", clerk.grant(1, 59, 60), 1);
     Check.due("26: the first one", clerk.grant(1, 0, 1), 1);
-    Check.thrown("26: overlaps", clerk, Check.STATE, () -> clerk.grant(1, 8, 12));
-    Check.thrown("26: overlaps", clerk, Check.STATE, () -> clerk.grant(1, 2, 6));
-    Check.thrown("26: its own", clerk, Check.STATE, () -> clerk.grant(0, 6, 7));
+    Check.thrown("26: overlaps", Check.STATE, () -> clerk.grant(1, 8, 12));
+    Check.thrown("26: overlaps", Check.STATE, () -> clerk.grant(1, 2, 6));
+    Check.thrown("26: its own", Check.STATE, () -> clerk.grant(0, 6, 7));
     Check.due("26: beside", clerk.grant(1, 9, 10), 1);
     Check.due("26: beside", clerk.grant(1, 4, 5), 1);
     int[] persons = {-1, 3, 14, Integer.MAX_VALUE, Integer.MIN_VALUE};
     for (int person : persons) {
-      Check.thrown("26: person", clerk, Check.INDEX, () -> clerk.grant(person, 20, 21));
-      Check.thrown("26: the index first", clerk, Check.INDEX, () -> clerk.grant(person, 20, 20));
+      Check.thrown("26: person", Check.INDEX, () -> clerk.grant(person, 20, 21));
+      Check.thrown("26: the index first", Check.INDEX, () -> clerk.grant(person, 20, 20));
     }
-    badUnits("26", clerk, (from, to) -> clerk.grant(0, from, to));
+    badUnits("26", (from, to) -> clerk.grant(0, from, to));
     clerk.death(2);
-    Check.thrown("26: the dead", clerk, Check.STATE, () -> clerk.grant(2, 20, 21));
-    Check.thrown("26: the argument first", clerk, Check.ARGUMENT, () -> clerk.grant(2, 20, 20));
+    Check.thrown("26: the dead", Check.STATE, () -> clerk.grant(2, 20, 21));
+    Check.thrown("26: the argument first", Check.ARGUMENT, () -> clerk.grant(2, 20, 20));
     clerk.death(0);
     clerk.close(0);
     Check.owners("26: nobody's again", clerk, 5, -1, -1);
-    Check.thrown("26: granted before", clerk, Check.STATE, () -> clerk.grant(1, 5, 6));
+    Check.thrown("26: granted before", Check.STATE, () -> clerk.grant(1, 5, 6));
     Check.due("26: all the rest", clerk.grant(1, 10, 59), 49);
   }
 
@@ -63,14 +63,14 @@ public final class LandTest {
     long answer(int from, int to);
   }
 
-  private static void badUnits(String promise, Treeclerk clerk, UnitsCall call) {
+  private static void badUnits(String promise, UnitsCall call) {
     int[][] bad = {
       {-1, 5}, {60, 61}, {60, 60}, {5, 5}, {5, 4}, {5, 61}, {0, 0}, {59, 59},
       {Integer.MIN_VALUE, 5}, {Integer.MAX_VALUE, Integer.MIN_VALUE}, {5, Integer.MAX_VALUE},
       {5, Integer.MIN_VALUE}, {5, -1}
     };
     for (int[] units : bad) {
-      Check.thrown(promise + ": " + units[0] + " to " + units[1], clerk, Check.ARGUMENT,
+      Check.thrown(promise + ": " + units[0] + " to " + units[1], Check.ARGUMENT,
           () -> call.answer(units[0], units[1]));
     }
   }
@@ -81,7 +81,7 @@ public final class LandTest {
     clerk.grant(1, 10, 12);
     Check.due("27: those that belong to it", clerk.hand(0, 2, 8, 60), 2);
     Check.owners("27: handed", clerk, 5, 0, 0, 0, 2, 2, 1, 1, -1);
-    Check.thrown("27: none", clerk, Check.STATE, () -> clerk.hand(0, 2, 8, 60));
+    Check.thrown("27: none", Check.STATE, () -> clerk.hand(0, 2, 8, 60));
     Check.due("27: back", clerk.hand(2, 0, 9, 10), 1);
     Check.due("27: from its middle", clerk.hand(0, 3, 6, 7), 1);
     Check.owners("27: from its middle", clerk, 5, 0, 3, 0, 2, 0);
@@ -93,19 +93,19 @@ public final class LandTest {
     Check.due("30: area", clerk.area(0), 0);
     int[] persons = {-1, 4, 14, Integer.MAX_VALUE, Integer.MIN_VALUE};
     for (int p : persons) {
-      Check.thrown("27: person", clerk, Check.INDEX, () -> clerk.hand(p, 0, 5, 6));
-      Check.thrown("27: other", clerk, Check.INDEX, () -> clerk.hand(1, p, 5, 6));
-      Check.thrown("27: the index first", clerk, Check.INDEX, () -> clerk.hand(p, p, 6, 6));
-      Check.thrown("30: person", clerk, Check.INDEX, () -> clerk.area(p));
+      Check.thrown("27: person", Check.INDEX, () -> clerk.hand(p, 0, 5, 6));
+      Check.thrown("27: other", Check.INDEX, () -> clerk.hand(1, p, 5, 6));
+      Check.thrown("27: the index first", Check.INDEX, () -> clerk.hand(p, p, 6, 6));
+      Check.thrown("30: person", Check.INDEX, () -> clerk.area(p));
     }
-    badUnits("27", clerk, (from, to) -> clerk.hand(1, 0, from, to));
-    Check.thrown("27: the same", clerk, Check.ARGUMENT, () -> clerk.hand(1, 1, 5, 6));
+    badUnits("27", (from, to) -> clerk.hand(1, 0, from, to));
+    Check.thrown("27: the same", Check.ARGUMENT, () -> clerk.hand(1, 1, 5, 6));
     clerk.death(3);
-    Check.thrown("27: to the dead", clerk, Check.STATE, () -> clerk.hand(1, 3, 5, 6));
+    Check.thrown("27: to the dead", Check.STATE, () -> clerk.hand(1, 3, 5, 6));
     clerk.death(1);
-    Check.thrown("27: from the dead", clerk, Check.STATE, () -> clerk.hand(1, 0, 5, 6));
-    Check.thrown("27: the argument first", clerk, Check.ARGUMENT, () -> clerk.hand(1, 1, 5, 6));
-    Check.thrown("27: the argument first", clerk, Check.ARGUMENT, () -> clerk.hand(1, 0, 6, 6));
+    Check.thrown("27: from the dead", Check.STATE, () -> clerk.hand(1, 0, 5, 6));
+    Check.thrown("27: the argument first", Check.ARGUMENT, () -> clerk.hand(1, 1, 5, 6));
+    Check.thrown("27: the argument first", Check.ARGUMENT, () -> clerk.hand(1, 0, 6, 6));
   }
 
   private static void handingsAreSixty() {
@@ -115,12 +115,12 @@ public final class LandTest {
       int giver = handing % 2;
       Check.due("27: handing", clerk.hand(giver, 1 - giver, 0, 60), 60);
       if (handing == 20) {
-        Check.thrown("27: what threw is none", clerk, Check.STATE,
+        Check.thrown("27: what threw is none", Check.STATE,
             () -> clerk.hand(giver, 1 - giver, 0, 60));
       }
     }
-    Check.thrown("27: a 61st", clerk, Check.STATE, () -> clerk.hand(0, 1, 0, 60));
-    Check.thrown("27: the argument first", clerk, Check.ARGUMENT, () -> clerk.hand(0, 0, 0, 60));
+    Check.thrown("27: a 61st", Check.STATE, () -> clerk.hand(0, 1, 0, 60));
+    Check.thrown("27: the argument first", Check.ARGUMENT, () -> clerk.hand(0, 0, 0, 60));
     clerk.proof(0, 2, 1);
     clerk.death(0);
     Check.due("27: closings go on", clerk.close(0), 1);
@@ -338,8 +338,8 @@ public final class LandTest {
     Treeclerk clerk = people(14);
     clerk.grant(13, 0, 1);
     clerk.grant(13, 59, 60);
-    Check.thrown("26: the first unit", clerk, Check.STATE, () -> clerk.grant(0, 0, 1));
-    Check.thrown("26: the last unit", clerk, Check.STATE, () -> clerk.grant(0, 59, 60));
+    Check.thrown("26: the first unit", Check.STATE, () -> clerk.grant(0, 0, 1));
+    Check.thrown("26: the last unit", Check.STATE, () -> clerk.grant(0, 59, 60));
     Check.due("31: at both ends", clerk.parcels(), 2);
     Check.due("32: at the start", clerk.parcelAt(0), 1);
     Check.due("32: at the end", clerk.parcelAt(59), 5901);
@@ -368,8 +368,8 @@ public final class LandTest {
     Check.due("32: the same person's other one", clerk.parcelAt(8), 801);
     Check.due("32: at the end", clerk.parcelAt(59), 5010);
     Check.due("32: at the end", clerk.parcelAt(50), 5010);
-    Check.thrown("32: nobody's", clerk, NoSuchElementException.class, () -> clerk.parcelAt(9));
-    Check.thrown("32: nobody's", clerk, NoSuchElementException.class, () -> clerk.parcelAt(49));
+    Check.thrown("32: nobody's", NoSuchElementException.class, () -> clerk.parcelAt(9));
+    Check.thrown("32: nobody's", NoSuchElementException.class, () -> clerk.parcelAt(49));
     clerk.hand(1, 0, 7, 8);
     Check.due("31: grown together", clerk.parcels(), 2);
     Check.due("32: grown together", clerk.parcelAt(8), 9);
@@ -386,9 +386,9 @@ public final class LandTest {
     clerk.grant(0, 0, 60);
     int[] units = {-1, 60, Integer.MAX_VALUE, Integer.MIN_VALUE};
     for (int unit : units) {
-      Check.thrown("28: unit", clerk, Check.INDEX, () -> clerk.owner(unit));
-      Check.thrown("29: unit", clerk, Check.INDEX, () -> clerk.ownerAnew(unit));
-      Check.thrown("32: unit", clerk, Check.INDEX, () -> clerk.parcelAt(unit));
+      Check.thrown("28: unit", Check.INDEX, () -> clerk.owner(unit));
+      Check.thrown("29: unit", Check.INDEX, () -> clerk.ownerAnew(unit));
+      Check.thrown("32: unit", Check.INDEX, () -> clerk.parcelAt(unit));
     }
     Check.owners("28: the last one", clerk, 59, 0);
     Check.due("30: all", clerk.area(0), 60);

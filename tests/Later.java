@@ -78,6 +78,11 @@ final class Later {
     player.play("openDoubts");
     for (int person = 0; person < people; person++) {
       player.play("childrenOf", person);
+      player.play("reopenings", person);
+    }
+    for (int unit = 0; unit < 60; unit += 5) {
+      player.play("owner", unit);
+      player.play("ownerAnew", unit);
     }
   }
 

@@ -491,23 +491,23 @@ public final class SharesTest {
     clerk.death(0);
     int[] persons = {-1, 3, 14, Integer.MAX_VALUE, Integer.MIN_VALUE};
     for (int p : persons) {
-      Check.thrown("20: person", clerk, Check.INDEX, () -> clerk.shareAbove(p, 0));
-      Check.thrown("20: dead", clerk, Check.INDEX, () -> clerk.shareAbove(1, p));
-      Check.thrown("20: the index first", clerk, Check.INDEX, () -> clerk.shareAbove(p, 1));
-      Check.thrown("21: person", clerk, Check.INDEX, () -> clerk.shareBelow(p, 0));
-      Check.thrown("21: dead", clerk, Check.INDEX, () -> clerk.shareBelow(1, p));
-      Check.thrown("21: the index first", clerk, Check.INDEX, () -> clerk.shareBelow(p, 1));
-      Check.thrown("22: person", clerk, Check.INDEX, () -> clerk.shareAboveByWays(p, 0));
-      Check.thrown("22: dead", clerk, Check.INDEX, () -> clerk.shareAboveByWays(1, p));
-      Check.thrown("22: the index first", clerk, Check.INDEX, () -> clerk.shareAboveByWays(p, 1));
-      Check.thrown("23: dead", clerk, Check.INDEX, () -> clerk.heirs(p));
-      Check.thrown("24: dead", clerk, Check.INDEX, () -> clerk.disputes(p));
-      Check.thrown("25: dead", clerk, Check.INDEX, () -> clerk.reopenings(p));
+      Check.thrown("20: person", Check.INDEX, () -> clerk.shareAbove(p, 0));
+      Check.thrown("20: dead", Check.INDEX, () -> clerk.shareAbove(1, p));
+      Check.thrown("20: the index first", Check.INDEX, () -> clerk.shareAbove(p, 1));
+      Check.thrown("21: person", Check.INDEX, () -> clerk.shareBelow(p, 0));
+      Check.thrown("21: dead", Check.INDEX, () -> clerk.shareBelow(1, p));
+      Check.thrown("21: the index first", Check.INDEX, () -> clerk.shareBelow(p, 1));
+      Check.thrown("22: person", Check.INDEX, () -> clerk.shareAboveByWays(p, 0));
+      Check.thrown("22: dead", Check.INDEX, () -> clerk.shareAboveByWays(1, p));
+      Check.thrown("22: the index first", Check.INDEX, () -> clerk.shareAboveByWays(p, 1));
+      Check.thrown("23: dead", Check.INDEX, () -> clerk.heirs(p));
+      Check.thrown("24: dead", Check.INDEX, () -> clerk.disputes(p));
+      Check.thrown("25: dead", Check.INDEX, () -> clerk.reopenings(p));
     }
-    Check.thrown("20: alive", clerk, Check.STATE, () -> clerk.shareAbove(2, 1));
-    Check.thrown("21: alive", clerk, Check.STATE, () -> clerk.shareBelow(2, 1));
-    Check.thrown("22: alive", clerk, Check.STATE, () -> clerk.shareAboveByWays(2, 1));
-    Check.thrown("23: alive", clerk, Check.STATE, () -> clerk.heirs(1));
-    Check.thrown("24: alive", clerk, Check.STATE, () -> clerk.disputes(1));
+    Check.thrown("20: alive", Check.STATE, () -> clerk.shareAbove(2, 1));
+    Check.thrown("21: alive", Check.STATE, () -> clerk.shareBelow(2, 1));
+    Check.thrown("22: alive", Check.STATE, () -> clerk.shareAboveByWays(2, 1));
+    Check.thrown("23: alive", Check.STATE, () -> clerk.heirs(1));
+    Check.thrown("24: alive", Check.STATE, () -> clerk.disputes(1));
   }
 }
